@@ -137,6 +137,17 @@ public final class PromiseTest {
 
     private static void faults() {
         faultOf("rooms 5;", 1, 0);
+        faultOf("rooma 5;", 1, 0);
+        faultOf("roomz 5;", 1, 0);
+        faultOf("xoom 5;", 1, 0);
+        faultOf("xost 5;", 1, 0);
+        faultOf("xtem 5 5;", 1, 0);
+        faultOf("roo 5;", 1, 0);
+        faultOf("room 5~;", 1, 6);
+        faultOf("room 5" + (char) 96, 1, 6);
+        faultOf("room 5{", 1, 6);
+        faultOf("room 5/;", 1, 6);
+        faultOf("room 5:", 1, 6);
         faultOf("room5", 1, 5);
         faultOf("room 5 ", 1, 7);
         faultOf("item 1;", 1, 6);
@@ -176,6 +187,11 @@ public final class PromiseTest {
         due(4, "fault(true)", () -> y.fault(true), 0);
         y.read();
         due(4, "the latest read() strikes", () -> y.fault(false), 0);
+        typed(y, "roomx");
+        y.read();
+        typed(y, "room");
+        y.read();
+        due(4, "bytes of an earlier text are none", () -> y.fault(true), 4);
     }
 
     /** A text with sums that reach the greatest int exactly, and then one more. */
