@@ -6,6 +6,7 @@ public final class KnapsackCore {
     public static final int NONE = -1;
 
     private static final int STUCK = -2;
+    private static final int OTHER_KIND = -2;
     private static final int ITEMS_AT_MOST = 60;
     private static final int GREATEST_NUMBER = 999999999;
     private static final int FIRST_ROOM = 100;
@@ -386,7 +387,7 @@ public final class KnapsackCore {
             return NONE;
         }
         if (set != (shelf == SHELF_OF_SETS)) {
-            return STUCK;
+            return OTHER_KIND;
         }
         int at = shelf * SHELF_PLACES + place;
         now.shelfWeights[at] = set ? core.sets.weights[number] : now.load.weights[number];
