@@ -1,61 +1,7 @@
-import java.util.NoSuchElementException;
 import java.util.Random;
-import java.util.function.LongSupplier;
 
 /** Each promise by itself: ordinary calls, the edges that the document names, wrong calls; answers worked out by hand. */
-public final class PromiseTest {
-    private static final long THROWS = Long.MIN_VALUE + 7;
-    private static final int LOW = Integer.MIN_VALUE;
-    private static final int HIGH = Integer.MAX_VALUE;
-    private static int wrong = 0;
-
-    private static void due(int promise, String call, LongSupplier got, long want) {
-        long is;
-        try {
-            is = got.getAsLong();
-        } catch (NoSuchElementException e) {
-            is = THROWS;
-        }
-        if (is != want) {
-            wrong++;
-            System.out.println("promise " + promise + ": " + call + " answered " + is + ", due is " + want);
-        }
-    }
-
-    private static void dueTrue(int promise, String call, boolean got) {
-        due(promise, call, () -> got ? 1 : 0, 1);
-    }
-
-    private static void dueFalse(int promise, String call, boolean got) {
-        due(promise, call, () -> got ? 1 : 0, 0);
-    }
-
-    /** Items 5 10, 4 12, 6 9, 3 6 and a room of 10: the order is 1 0 3 2, the break 2, the linear bound 24. */
-    private static KnapsackCore example() {
-        KnapsackCore x = new KnapsackCore();
-        x.add(5, 10);
-        x.add(4, 12);
-        x.add(6, 9);
-        x.add(3, 6);
-        x.room(10);
-        return x;
-    }
-
-    private static long eight(String s) {
-        long eight = 0;
-        for (int k = 0; k < 8; k++) {
-            eight = eight << 8 | (k < s.length() ? s.charAt(k) & 255 : 0);
-        }
-        return eight;
-    }
-
-    private static KnapsackCore typed(KnapsackCore x, String text) {
-        for (int at = 0; at < text.length(); at += 8) {
-            x.type(eight(text.substring(at, Math.min(at + 8, text.length()))));
-        }
-        return x;
-    }
-
+public final class PromiseTest extends Checks {
     private static void faultOf(String text, int fault, int place) {
         KnapsackCore x = typed(example(), text);
         String call = "read of '" + text + "', ";
@@ -880,9 +826,6 @@ public final class PromiseTest {
         shelve();
         images();
         optima();
-        System.out.println(wrong == 0 ? "all promises hold" : wrong + " answers are not as due");
-        if (wrong != 0) {
-            System.exit(1);
-        }
+        end("all promises hold");
     }
 }
