@@ -313,6 +313,14 @@ public final class CallEdgeTest extends Checks {
             due("count(" + no + ")", () -> busy().count(no), -1);
         }
 
+        sentence("Promise 13", "3: 1 if BEST has it, else 0, 4: 1 if it is FIXED, else 0");
+        long[][] flags = {{1, 0}, {1, 1}, {0, 1}, {0, 0}};
+        for (int k = 0; k < flags.length; k++) {
+            int item = k;
+            due("item(" + item + ", 3)", () -> busy().item(item, 3), flags[item][0]);
+            due("item(" + item + ", 4)", () -> busy().item(item, 4), flags[item][1]);
+        }
+
         sentence("Promise 13", "NoSuchElementException: there is none such");
         for (int no : new int[] {-1, 4, 59, 60, LOW, HIGH}) {
             refused("item(" + no + ", 0)", CallEdgeTest::busy, y -> y.item(no, 0), THROWS);
@@ -355,8 +363,9 @@ public final class CallEdgeTest extends Checks {
 
     private static void parts() {
         sentence("Promise 18", "PROFIT as a float by WEIGHT as a float");
-        int[][] pairs = {{1, 1}, {1, 999999999}, {999999999, 1}, {999999999, 999999999}, {16777217, 16777219},
-            {3, 1}, {16777217, 1}, {1, 33554433}, {7, 16777217}, {999999967, 999999937}};
+        int[][] pairs = {{1, 1}, {1, 2}, {1, 4}, {2, 1}, {4, 1}, {1, 999999999},
+            {999999999, 1}, {999999999, 999999999}, {16777217, 16777219}, {3, 1},
+            {16777217, 1}, {1, 33554433}, {7, 16777217}, {999999967, 999999937}};
         for (int[] pair : pairs) {
             due("share of " + pair[0] + " " + pair[1], () -> sack(1, pair[0], pair[1]).share(0),
                     Float.floatToRawIntBits((float) pair[1] / (float) pair[0]));
@@ -372,6 +381,10 @@ public final class CallEdgeTest extends Checks {
         due("no ITEMS", () -> new KnapsackCore().linear(), 0);
         due("no ROOM", () -> sack(0, 1, 1).linear(), 0);
         due("all fit", () -> sack(1, 1, 1).linear(), Double.doubleToRawLongBits(1.0));
+        due("2", () -> sack(1, 1, 2).linear(), Double.doubleToRawLongBits(2.0));
+        due("4", () -> sack(1, 1, 4).linear(), Double.doubleToRawLongBits(4.0));
+        due("a half", () -> sack(1, 2, 1).linear(), Double.doubleToRawLongBits(0.5));
+        due("a quarter", () -> sack(1, 4, 1).linear(), Double.doubleToRawLongBits(0.25));
         due("nothing is left", () -> sack(1, 1, 3, 1, 2).linear(), Double.doubleToRawLongBits(3.0));
         due("first times, then by", () -> sack(3, 10, 7).linear(), Double.doubleToRawLongBits(3.0 * 7.0 / 10.0));
         due("small", () -> sack(1, 999999999, 1).linear(), Double.doubleToRawLongBits(1.0 / 999999999.0));
@@ -513,6 +526,7 @@ public final class CallEdgeTest extends Checks {
         due("one over", () -> sack(5, 6, 9, 1, 1).with(0), -1);
         due("no ROOM", () -> sack(0, 1, 1).with(0), -1);
         due("one is left", () -> sack(7, 6, 9, 1, 1).with(0), 10);
+        due("it is in but once", () -> sack(12, 6, 9, 1, 1).with(0), 10);
         due("great numbers", () -> dear().with(2), 999999999 + 147483649);
     }
 

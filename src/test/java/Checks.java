@@ -171,7 +171,10 @@ abstract class Checks {
         }
     }
 
-    /** All that can be asked now, behind each undo(), and behind each again(): the object is of no use then. */
+    /**
+     * All that can be asked now, behind each undo(), and behind each again(): the object is of no use then. These are
+     * more than the 512 calls that the document speaks of; both objects that are compared are asked the same.
+     */
     static List<String> seenToTheGround(KnapsackCore x) {
         List<String> rows = seen(x);
         for (int k = 0; k < 9; k++) {

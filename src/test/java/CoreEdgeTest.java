@@ -211,6 +211,9 @@ public final class CoreEdgeTest extends Checks {
         due("PROVED", () -> y.count(11), 1);
         due("step()", y::step, -1);
         due("no ITEMS, step()", () -> new KnapsackCore().step(), -1);
+        KnapsackCore one = sack(1, 1, 1);
+        one.solve();
+        due("one ITEM, solved", () -> one.count(11), 1);
         due("one ITEM at first is not PROVED, though it fits", () -> sack(1, 1, 1).count(11), 0);
         due("one ITEM at first is not PROVED, though it does not fit", () -> sack(0, 1, 1).count(11), 0);
     }
@@ -391,6 +394,17 @@ public final class CoreEdgeTest extends Checks {
         x.solve();
         x.drop(4);
         sameAsNew("drop", x, four());
+
+        sentence("Terms 2", "all that is from CORE on is as at first [and is so behind an undo(), an again(), too]");
+        KnapsackCore y = four();
+        y.step();
+        y.room(9);
+        y.image(0);
+        y.add(1, 1);
+        y.undo();
+        coreIs("undo()", y, 2, 1, 0);
+        y.again(0);
+        coreIs("again()", y, 2, 1, 0);
     }
 
     private static void sameAsNew(String what, KnapsackCore x, KnapsackCore fresh) {
@@ -509,22 +523,24 @@ public final class CoreEdgeTest extends Checks {
         due("3 SETS, MOST is 2", () -> two.front(-1, 0), -2);
 
         sentence(terms, "A CORNER: of each two others, it lies above the straight line between them");
-        KnapsackCore line = sack(0, 1, 1, 1, 1, 1, 1);
-        long[] corners = {1, 0, 0, 1};
-        for (int k = 0; k < corners.length; k++) {
-            int one = k;
-            due("on the line, front(" + one + ", 3)", () -> line.front(one, 3), corners[one]);
-        }
-        KnapsackCore near = sack(0, 999999998, 999999997, 999999999, 999999998);
-        long[] nearly = {1, 0, 1, 1};
-        for (int k = 0; k < nearly.length; k++) {
-            int one = k;
-            due("below and above by less than doubles tell, " + one, () -> near.front(one, 3), nearly[one]);
-        }
+        cornersAre("on the line", sack(0, 1, 1, 1, 1, 1, 1), 1, 0, 0, 1);
+        cornersAre("below and above by less than doubles tell", sack(0, 999999998, 999999997, 999999999, 999999998),
+                1, 0, 1, 1);
+        cornersAre("each is a CORNER", sack(0, 6, 9, 7, 2, 7, 7), 1, 1, 1, 1);
+        cornersAre("below the next but one", sack(0, 4, 5, 2, 2, 4, 11), 1, 0, 1, 0, 1, 1);
+        cornersAre("below one far behind", sack(0, 6, 12, 1, 1, 3, 10), 1, 0, 1, 0, 0, 0, 1, 1);
+        cornersAre("on the line of its neighbours", sack(0, 9, 11, 9, 11, 9, 12), 1, 1, 0, 1);
+        cornersAre("below one far ahead", sack(0, 8, 8, 9, 11, 3, 4), 1, 1, 0, 0, 0, 1, 0, 1);
         due("no ITEMS: there are no two others", () -> new KnapsackCore().front(0, 3), 1);
         due("one ITEM", () -> sack(0, 5, 5).front(1, 3), 1);
-        KnapsackCore far = example();
-        due("above the lines of its neighbours, not above all", () -> far.front(4, 3), 0);
+    }
+
+    private static void cornersAre(String what, KnapsackCore x, long... want) {
+        due(what + ", how many", () -> x.front(-1, 0), want.length);
+        for (int k = 0; k < want.length; k++) {
+            int one = k;
+            due(what + ", front(" + one + ", 3)", () -> x.front(one, 3), want[one]);
+        }
     }
 
     /** Weights and profits 1, 2, 4, .. and a last one with which all sums from 0 on to one less than most are there. */

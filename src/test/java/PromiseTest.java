@@ -1,6 +1,6 @@
 import java.util.Random;
 
-/** Each promise by itself: ordinary calls, the edges that the document names, wrong calls; answers worked out by hand. */
+/** Each promise by itself: ordinary calls, edges, wrong calls; answers worked out by hand. */
 public final class PromiseTest extends Checks {
     private static void faultOf(String text, int fault, int place) {
         KnapsackCore x = typed(example(), text);

@@ -84,6 +84,12 @@ public final class TextEdgeTest extends Checks {
         fault((char) 123 + "room 5;", 1, 0);
         fault("room" + (char) 96 + "5;", 1, 4);
         fault("room" + (char) 123 + "5;", 1, 4);
+        fault("xoom 5;", 1, 0);
+        fault("xost 5;", 1, 0);
+        fault("xtem 5 5;", 1, 0);
+        fault("roox 5;", 1, 0);
+        fault("mosx 5;", 1, 0);
+        fault("itex 5 5;", 1, 0);
         fault("rooma5;", 1, 0);
         fault("roomz5;", 1, 0);
         fault("a", 1, 0);
@@ -307,6 +313,18 @@ public final class TextEdgeTest extends Checks {
             z.read();
             return z.count(1) * 1000 + z.count(2);
         }, 100400);
+
+        due("ROOM and MOST of an earlier text are as at first", () -> {
+            KnapsackCore z = typed(new KnapsackCore(), "room 5;most 7;item 1 1;");
+            z.read();
+            z.read();
+            return z.count(1) * 1000 + z.count(2);
+        }, 100400);
+        KnapsackCore items = typed(busy(), "room 10;item 5 10;item 4 12;item 6 9;item 3 6;");
+        items.read();
+        due("STEPS", () -> items.count(9), 0);
+        due("SETS", () -> items.count(10), 1);
+        due("the BREAK SET", () -> items.set(0, 1), 22);
 
         sentence("Promise 3", "how many ITEMS");
         reads("room 5;", 0);
