@@ -9,6 +9,7 @@ public final class KnapsackCore {
     private static final int OTHER_KIND = -2;
     private static final int ITEMS_AT_MOST = 60;
     private static final int GREATEST_NUMBER = 999999999;
+    private static final int GREATEST_INT = 2147483647;
     private static final int FIRST_ROOM = 100;
     private static final int GREATEST_ROOM = 2000000000;
     private static final int FIRST_MOST = 400;
@@ -16,6 +17,7 @@ public final class KnapsackCore {
     private static final int GREATEST_MOST = 1000;
     private static final int TEXT_AT_MOST = 600;
     private static final int BYTES_OF_LONG = 8;
+    private static final int HALVINGS_AT_MOST = 32;
     private static final int DIGITS_AT_MOST = 10;
     private static final int ACTS_AT_MOST = 8;
     private static final int IMAGES = 3;
@@ -355,7 +357,7 @@ public final class KnapsackCore {
         if (optimum == NONE || optimum < profit) {
             return NONE;
         }
-        for (int k = 0; k < Integer.SIZE && low < high; k++) {
+        for (int k = 0; k < HALVINGS_AT_MOST && low < high; k++) {
             int middle = low + (high - low) / 2;
             optimum = optimumOfSupposed(middle);
             if (optimum == NONE) {
@@ -612,7 +614,7 @@ public final class KnapsackCore {
 
         boolean canTake(int weight, int profit) {
             return items < ITEMS_AT_MOST && canBeItemsNumber(weight) && canBeItemsNumber(profit)
-                    && allWeights() + weight <= Integer.MAX_VALUE && allProfits() + profit <= Integer.MAX_VALUE;
+                    && allWeights() + weight <= GREATEST_INT && allProfits() + profit <= GREATEST_INT;
         }
 
         void put(int weight, int profit) {
@@ -822,7 +824,8 @@ public final class KnapsackCore {
 
     /** The core, as far as it has been widened. */
     private static final class Core {
-        private static final long NO_BOUND = Long.MIN_VALUE;
+        // No best set has so little profit: what has no bound goes in any case.
+        private static final long NO_BOUND = -1L;
 
         final Ranked ranked = new Ranked();
         Sets sets = new Sets();
@@ -960,7 +963,8 @@ public final class KnapsackCore {
             due = WORD;
             weight = 0;
             int place = behindBlanks(text, 0, length);
-            while (place < length) {
+            // Each token has a byte at least, so there are no more of them than bytes.
+            for (int tokens = 0; tokens < length && place < length; tokens++) {
                 int end = endOfToken(text, place, length);
                 if (end <= place || !takesToken(text, place, end)) {
                     fault = CAN_NOT_STAND;
@@ -1106,7 +1110,7 @@ public final class KnapsackCore {
         private void noteItemsNumber(long value, long sum, int place) {
             if (!canBeItemsNumber(value)) {
                 note(CAN_NOT_BE, place);
-            } else if (sum + value > Integer.MAX_VALUE) {
+            } else if (sum + value > GREATEST_INT) {
                 note(SUM_NO_INT, place);
             }
         }

@@ -87,8 +87,13 @@ public final class LanguageTest {
         }
     }
 
+    /** The source without its comments. */
+    private static String code() throws IOException {
+        return Files.readString(SOURCE).replaceAll("(?s)/\\*.*?\\*/", "").replaceAll("//[^\n]*", "");
+    }
+
     private static void source() throws IOException {
-        String text = Files.readString(SOURCE).replaceAll("(?s)/\\*.*?\\*/", "").replaceAll("//[^\n]*", "");
+        String text = code();
         Set<String> imports = new TreeSet<>();
         Matcher m = Pattern.compile("import ([^;]*);").matcher(text);
         while (m.find()) {
@@ -116,10 +121,39 @@ public final class LanguageTest {
         }
     }
 
+    /** Rule 4: of the library's classes nothing but what the rule lists, so no constant of Integer or Long either. */
+    private static void library() throws IOException {
+        Set<String> listed = Set.of("Math.floorDiv", "Math.max", "Math.min", "Long.bitCount", "System.arraycopy",
+                "Arrays.copyOf", "Arrays.fill");
+        Matcher m = Pattern.compile("\\b[A-Z][A-Za-z]+\\.\\w+").matcher(code());
+        while (m.find()) {
+            require(listed.contains(m.group()), "not of the library: " + m.group());
+        }
+    }
+
+    /** Rule 9: what a while compares is counted up or down in the loop's own lines. */
+    private static void loops() throws IOException {
+        String[] lines = code().split("\n");
+        for (int k = 0; k < lines.length; k++) {
+            Matcher m = Pattern.compile("^( *)while \\((\\w+) [<>]=? ").matcher(lines[k]);
+            if (!lines[k].contains("while (")) {
+                continue;
+            }
+            boolean counts = false;
+            boolean plain = m.find();
+            for (int in = k + 1; plain && !lines[in].equals(m.group(1) + "}"); in++) {
+                counts |= lines[in].matches(" *" + m.group(2) + "(\\+\\+|--);");
+            }
+            require(counts, "a loop without a counter: " + lines[k].trim());
+        }
+    }
+
     public static void main(String[] args) throws IOException {
         face();
         classesInside();
         source();
+        library();
+        loops();
         System.out.println(wrong == 0 ? "the language is kept to" : wrong + " rules are broken");
         if (wrong != 0) {
             System.exit(1);

@@ -1,0 +1,96 @@
+import java.io.IOException;
+import java.lang.reflect.InvocationTargetException;
+import java.lang.reflect.Method;
+import java.lang.reflect.Modifier;
+import java.nio.file.Files;
+import java.nio.file.Path;
+import java.util.List;
+import java.util.regex.Matcher;
+import java.util.regex.Pattern;
+
+/** README.md: its example is called line by line, its text is read, and it speaks of all calls and all tests. */
+public final class ReadmeTest extends Checks {
+    private static final Pattern LINE = Pattern.compile("sack\\.(\\w+)\\(([^)]*)\\); +// (-?\\d+|true|false)(:.*)?");
+
+    private static Method named(String name) {
+        for (Method m : KnapsackCore.class.getDeclaredMethods()) {
+            if (m.getName().equals(name) && Modifier.isPublic(m.getModifiers())) {
+                return m;
+            }
+        }
+        return null;
+    }
+
+    private static void exampleLine(KnapsackCore x, String line)
+            throws IllegalAccessException, InvocationTargetException {
+        Matcher told = LINE.matcher(line);
+        Method call = told.matches() ? named(told.group(1)) : null;
+        if (call == null) {
+            fail("README.md: this line can not be tested: " + line);
+            return;
+        }
+        String[] numbers = told.group(2).isEmpty() ? new String[0] : told.group(2).split(", ");
+        Object[] arguments = new Object[numbers.length];
+        for (int k = 0; k < numbers.length; k++) {
+            arguments[k] = Integer.valueOf(numbers[k]);
+        }
+        String answer = String.valueOf(call.invoke(x, arguments));
+        if (!answer.equals(told.group(3))) {
+            fail("README.md: " + line + " answered " + answer);
+        }
+    }
+
+    private static void example(String readme) throws IllegalAccessException, InvocationTargetException {
+        Matcher block = Pattern.compile("```java\n(.*?)```", Pattern.DOTALL).matcher(readme);
+        if (!block.find()) {
+            fail("README.md has no example");
+            return;
+        }
+        String[] lines = block.group(1).split("\n");
+        dueTrue("README.md: the first line of the example makes an object",
+                lines[0].equals("KnapsackCore sack = new KnapsackCore();"));
+        KnapsackCore x = new KnapsackCore();
+        for (int k = 1; k < lines.length; k++) {
+            exampleLine(x, lines[k]);
+        }
+    }
+
+    private static void text(String readme) {
+        Matcher told = Pattern.compile("`(room \\d+; item [^`]*;)`").matcher(readme);
+        if (!told.find()) {
+            fail("README.md tells no text");
+            return;
+        }
+        KnapsackCore x = typed(new KnapsackCore(), told.group(1));
+        due("README.md: read() of its text", x::read, 4);
+        same("README.md: its text tells the example's items", seen(x), seenWithoutActs());
+    }
+
+    private static List<String> seenWithoutActs() {
+        KnapsackCore x = example();
+        x.image(0);
+        x.again(0);
+        return seen(x);
+    }
+
+    private static void speaksOfAll(String readme) throws IOException {
+        for (Method m : KnapsackCore.class.getDeclaredMethods()) {
+            if (Modifier.isPublic(m.getModifiers())) {
+                dueTrue("README.md: it speaks of " + m.getName(), readme.contains("`" + m.getName() + "`"));
+            }
+        }
+        try (var tests = Files.list(Path.of("src/test/java"))) {
+            tests.map(test -> test.getFileName().toString().replace(".java", ""))
+                    .forEach(name -> dueTrue("README.md: it speaks of " + name, readme.contains("`" + name + "`")));
+        }
+        dueTrue("README.md: it says how the tests are run", readme.contains("`.ci/run`"));
+    }
+
+    public static void main(String[] args) throws Exception {
+        String readme = Files.readString(Path.of("README.md"));
+        example(readme);
+        text(readme);
+        speaksOfAll(readme);
+        end("README.md holds");
+    }
+}
