@@ -86,11 +86,39 @@ public final class ReadmeTest extends Checks {
         dueTrue("README.md: it says how the tests are run", readme.contains("`.ci/run`"));
     }
 
+    /** What README.md says of calls that are refused: those that do not answer NONE. */
+    private static void refusedCalls(String readme) {
+        KnapsackCore x = new KnapsackCore();
+        dueTrue("README.md: it tells these apart", readme.contains("- `room`, `most`, `image`, `again`: false.")
+                && readme.contains("- `reduced`, `share`, `part`: 0; so does `swap(0)`")
+                && readme.contains("-2 is for `step` and `front` that are stuck"));
+        dueFalse("room(-1)", x.room(-1));
+        dueFalse("most(1)", x.most(1));
+        dueFalse("image(3)", x.image(3));
+        dueFalse("again(0)", x.again(0));
+        due("reduced(0)", () -> x.reduced(0), 0);
+        due("share(0)", () -> x.share(0), 0);
+        due("part(1, 0)", () -> x.part(1, 0), 0);
+        due("swap(0)", () -> x.swap(0), 0);
+        due("fault(false)", () -> x.fault(false), 0);
+        due("ahead(false)", () -> x.ahead(false), 0);
+        due("item(0, 0)", () -> x.item(0, 0), THROWS);
+        due("set(1, 0)", () -> x.set(1, 0), THROWS);
+        KnapsackCore stuck = example();
+        stuck.most(2);
+        stuck.step();
+        due("step() that is stuck", stuck::step, -2);
+        due("front(-1, 0) that is stuck", () -> stuck.front(-1, 0), -2);
+        due("other(10) that is stuck", () -> stuck.other(10), -1);
+        due("shelve(1, 0, false, 0)", () -> stuck.shelve(1, 0, false, 0), -2);
+    }
+
     public static void main(String[] args) throws Exception {
         String readme = Files.readString(Path.of("README.md"));
         example(readme);
         text(readme);
         speaksOfAll(readme);
+        refusedCalls(readme);
         end("README.md holds");
     }
 }
